@@ -8,9 +8,11 @@ public final class HistoryTest {
     undoKeepsSix();
     undoEachChange();
     errorsAreNotRecorded();
+    errorsLeaveTheOldestState();
     undoLeavesPadAndSlots();
     save();
     restore();
+    restoreOverOtherLetters();
     restoreIsAChange();
     Checks.end("HistoryTest");
   }
@@ -127,6 +129,18 @@ public final class HistoryTest {
     Checks.due("what is no change is not recorded", desk.count(11), 3);
   }
 
+  private static void errorsLeaveTheOldestState() {
+    MoodDrawers desk = new MoodDrawers();
+    for (int change = 0; change < 12; change++) {
+      desk.write(change % 6, change, NONE);
+      desk.write(change % 6, 100, NONE);
+    }
+    for (int left = 5; left >= 0; left--) {
+      Checks.due("undo with errors between", desk.undo(), left);
+      Checks.due("letters with errors between", desk.count(2), 6 + left);
+    }
+  }
+
   private static void undoLeavesPadAndSlots() {
     MoodDrawers desk = new MoodDrawers();
     desk.write(0, 11, NONE);
@@ -181,6 +195,33 @@ public final class HistoryTest {
     Checks.due("the pad stays", late.count(10), 3);
     Checks.due("hours can pass again", late.pass(240), 0);
     Checks.due("the other slot is empty", late.restore(1), NOT_POSSIBLE);
+  }
+
+  /** The letters of both states have the same numbers, and nothing else in common. */
+  private static void restoreOverOtherLetters() {
+    MoodDrawers desk = new MoodDrawers();
+    desk.save(1);
+    desk.rest(0, 0);
+    desk.write(0, 20, NONE);
+    desk.write(0, 30, NONE);
+    desk.pass(48);
+    desk.write(1, 66, 0);
+    desk.write(2, 77, 1);
+    desk.burn(3);
+    desk.save(0);
+    String saved = told(desk);
+    desk.restore(1);
+    Checks.due("nothing is left", desk.count(2), 0);
+    desk.write(3, 5, NONE);
+    desk.write(4, 6, NONE);
+    desk.write(5, 7, NONE);
+    Checks.passUntil(desk, 7, 7);
+    desk.write(5, 8, 1);
+    String other = told(desk);
+    Checks.due("restore the first letters", desk.restore(0), 4);
+    dueSame("the first letters", told(desk), saved);
+    desk.undo();
+    dueSame("undone to the others", told(desk), other);
   }
 
   private static void restoreIsAChange() {

@@ -133,6 +133,15 @@ public final class QueriesTest {
     Checks.due("heat of another", desk.ofDrawer(0, 5), 72);
     desk.pass(24);
     Checks.due("heat of all its letters a day later", desk.ofDrawer(1, 5), 55 + 36 + 0);
+    MoodDrawers full = new MoodDrawers();
+    for (int letter = 0; letter < 30; letter++) {
+      full.write(letter % 5, 10, NONE);
+      full.write(letter % 5, 10, NONE);
+      full.undo();
+    }
+    Checks.due("the last letter", full.write(4, 10, NONE), 29);
+    Checks.due("heat from the first letter to the last, none of undone ones", full.ofDrawer(0, 5), 60);
+    Checks.due("no heat without letters", full.ofDrawer(5, 5), 0);
     for (int mood : new int[] {-1, 6, Integer.MIN_VALUE, Integer.MAX_VALUE}) {
       Checks.due("no such drawer", desk.ofDrawer(mood, -1), NO_SUCH);
     }
@@ -218,6 +227,12 @@ public final class QueriesTest {
       Checks.due("mean of " + together + " by " + (letter + 1), desk.meanHeat(),
           Double.doubleToLongBits((double) together / (double) (letter + 1)));
     }
+    MoodDrawers near = quickDesk();
+    for (int letter = 0; letter < 30; letter++) {
+      near.write(letter % 6, letter == 0 ? 3 : 2, NONE);
+      near.pass(24);
+    }
+    Checks.due("just above a power of 2", near.meanHeat(), Double.doubleToLongBits(61.0 / 30.0));
     MoodDrawers cooled = new MoodDrawers();
     cooled.write(0, 40, NONE);
     cooled.write(0, 99, NONE);

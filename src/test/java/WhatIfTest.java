@@ -44,6 +44,10 @@ public final class WhatIfTest {
     }
     desk.set(MoodDrawers.COOLING, 0);
     Checks.due("never cool enough", desk.goesIn(1), NONE);
+    desk.set(MoodDrawers.COOL, 44);
+    Checks.due("never cool enough by 1", desk.goesIn(1), NONE);
+    desk.set(MoodDrawers.COOL, 45);
+    Checks.due("just cool enough", desk.goesIn(1), 48);
     Checks.due("cool enough as it is", desk.goesIn(0), 48);
     desk.set(MoodDrawers.POST, 18);
     Checks.due("a later post", desk.goesIn(0), 49);
@@ -56,6 +60,8 @@ public final class WhatIfTest {
     desk.hours(0, 17, 18);
     desk.turn(0);
     Checks.due("unlocked at the very hour", desk.goesIn(0), 18);
+    desk.hours(0, 0, 20);
+    Checks.due("unlocked at the hour of now", desk.goesIn(0), 18);
     desk.hours(0, 16, 17);
     Checks.due("locked at the very hour", desk.goesIn(0), NONE);
     desk.turn(0);
@@ -63,6 +69,8 @@ public final class WhatIfTest {
     Checks.due("locked behind it", desk.goesIn(0), 18);
     desk.hours(0, 3, 9);
     Checks.due("locked on every day", desk.goesIn(0), NONE);
+    desk.hours(0, 20, 0);
+    Checks.due("locked at the hour of now", desk.goesIn(0), NONE);
     desk.hours(0, 9, 3);
     Checks.due("unlocked again ahead of it", desk.goesIn(0), 18);
     Checks.passUntil(desk, 0, 12);
