@@ -4,8 +4,9 @@ import java.util.Random;
 public final class ModelTest {
   private static final int RUNS = 600;
   private static final int CALLS = 512;
-  private static final int CALL_KINDS = 28;
-  private static final int[] EXTREMES = {Integer.MIN_VALUE, Integer.MAX_VALUE, -1, -2, -5, -6, -7, 30, 31, 100, 240, 241};
+  private static final int[] HIGHEST_SETTING = {23, 99, 20};
+  private static final int[] EXTREMES = {
+      Integer.MIN_VALUE, Integer.MAX_VALUE, -1, -2, -5, -6, -7, 30, 31, 100, 240, 241};
 
   private final Random random;
   private final MoodDrawers desk = new MoodDrawers();
@@ -56,34 +57,103 @@ public final class ModelTest {
   }
 
   private void call(String where) {
-    int kind = random.nextInt(CALL_KINDS + 12);
-    int a;
-    int b;
-    switch (kind) {
-      case 0: a = upTo(2); b = upTo(new int[] {23, 99, 20}[Math.floorMod(a, 3)]); due(where, "set", a, b, desk.set(a, b), plain.set(a, b)); break;
-      case 1: a = upTo(5); due(where, "turn", a, 0, desk.turn(a), plain.turn(a)); break;
-      case 2: a = upTo(5); b = upTo(random.nextBoolean() ? 3 : 30); due(where, "rest", a, b, desk.rest(a, b), plain.rest(a, b)); break;
-      case 3: callHours(where); break;
-      case 4: a = letter(); due(where, "burn", a, 0, desk.burn(a), plain.burn(a)); break;
-      case 5: case 6: a = 1 + upTo(passesMost - 1); due(where, "pass", a, 0, desk.pass(a), plain.pass(a)); break;
-      case 7: case 8: a = letter(); b = upTo(9); due(where, "ofLetter", a, b, desk.ofLetter(a, b), plain.ofLetter(a, b)); break;
-      case 9: case 10: a = upTo(5); b = upTo(7); due(where, "ofDrawer", a, b, desk.ofDrawer(a, b), plain.ofDrawer(a, b)); break;
-      case 11: case 12: a = upTo(3); due(where, "letters", a, 0, desk.letters(a), plain.letters(a)); break;
-      case 13: a = upTo(11); due(where, "count", a, 0, desk.count(a), plain.count(a)); break;
-      case 14: due(where, "meanHeat", 0, 0, desk.meanHeat(), plain.meanHeat()); break;
-      case 15: due(where, "share", 0, 0, desk.share(), plain.share()); break;
-      case 16: case 17: a = letter(); due(where, "goesIn", a, 0, desk.goesIn(a), plain.goesIn(a)); break;
-      case 18: a = 1 + upTo(19); b = upTo(1); due(where, "bestPost", a, b, desk.bestPost(a, b), plain.bestPost(a, b)); break;
-      case 19: due(where, "mostRegretted", 0, 0, desk.mostRegretted(), plain.mostRegretted()); break;
-      case 20: a = random.nextBoolean() ? letter() : letterOrNone(); b = letter(); due(where, "ifSent", a, b, desk.ifSent(a, b), plain.ifSent(a, b)); break;
-      case 21: case 22: callPut(where); break;
-      case 23: if (random.nextInt(4) == 0) { due(where, "wipe", 0, 0, desk.wipe(), plain.wipe()); } break;
-      case 24: due(where, "fault", 0, 0, desk.fault(), plain.fault()); break;
-      case 25: due(where, "carryOut", 0, 0, desk.carryOut(), plain.carryOut()); break;
-      case 26: due(where, "undo", 0, 0, desk.undo(), plain.undo()); break;
-      case 27: a = upTo(1); due(where, "save", a, 0, desk.save(a), plain.save(a)); break;
-      case 28: a = upTo(1); if (random.nextInt(3) == 0) { due(where, "restore", a, 0, desk.restore(a), plain.restore(a)); } break;
-      default: callWrite(where); break;
+    switch (random.nextInt(10)) {
+      case 0: case 1: callWrite(where); break;
+      case 2: case 3: callChange(where); break;
+      case 4: callPass(where); break;
+      case 5: case 6: callQuery(where); break;
+      case 7: callWhatIf(where); break;
+      case 8: callText(where); break;
+      default: callState(where); break;
+    }
+  }
+
+  private void callChange(String where) {
+    int mood = upTo(5);
+    switch (random.nextInt(5)) {
+      case 0: callSet(where); break;
+      case 1: due(where, "turn", mood, 0, desk.turn(mood), plain.turn(mood)); break;
+      case 2: callRest(where, mood); break;
+      case 3: callHours(where, mood); break;
+      default: callBurn(where); break;
+    }
+  }
+
+  private void callSet(String where) {
+    int setting = upTo(2);
+    int value = upTo(HIGHEST_SETTING[Math.floorMod(setting, 3)]);
+    due(where, "set", setting, value, desk.set(setting, value), plain.set(setting, value));
+  }
+
+  private void callRest(String where, int mood) {
+    int days = upTo(random.nextBoolean() ? 3 : 30);
+    due(where, "rest", mood, days, desk.rest(mood, days), plain.rest(mood, days));
+  }
+
+  private void callHours(String where, int mood) {
+    int unlocks = random.nextInt(4) == 0 ? -6 : upTo(23);
+    int locks = upTo(23);
+    due(where, "hours " + mood, unlocks, locks, desk.hours(mood, unlocks, locks), plain.hours(mood, unlocks, locks));
+  }
+
+  private void callBurn(String where) {
+    int letter = letter();
+    due(where, "burn", letter, 0, desk.burn(letter), plain.burn(letter));
+  }
+
+  private void callPass(String where) {
+    int hours = 1 + upTo(passesMost - 1);
+    due(where, "pass", hours, 0, desk.pass(hours), plain.pass(hours));
+  }
+
+  private void callQuery(String where) {
+    int letter = letter();
+    int mood = upTo(5);
+    int what = upTo(11);
+    switch (random.nextInt(6)) {
+      case 0: due(where, "ofLetter", letter, what, desk.ofLetter(letter, what), plain.ofLetter(letter, what)); break;
+      case 1: due(where, "ofDrawer", mood, what, desk.ofDrawer(mood, what), plain.ofDrawer(mood, what)); break;
+      case 2: due(where, "letters", what / 2, 0, desk.letters(what / 2), plain.letters(what / 2)); break;
+      case 3: due(where, "count", what, 0, desk.count(what), plain.count(what)); break;
+      case 4: due(where, "meanHeat", 0, 0, desk.meanHeat(), plain.meanHeat()); break;
+      default: due(where, "share", 0, 0, desk.share(), plain.share()); break;
+    }
+  }
+
+  private void callWhatIf(String where) {
+    int letter = letter();
+    int other = random.nextBoolean() ? letter() : letterOrNone();
+    int days = 1 + upTo(19);
+    int what = upTo(1);
+    switch (random.nextInt(6)) {
+      case 0: case 1: due(where, "goesIn", letter, 0, desk.goesIn(letter), plain.goesIn(letter)); break;
+      case 2: due(where, "bestPost", days, what, desk.bestPost(days, what), plain.bestPost(days, what)); break;
+      case 3: due(where, "mostRegretted", 0, 0, desk.mostRegretted(), plain.mostRegretted()); break;
+      default: due(where, "ifSent", other, letter, desk.ifSent(other, letter), plain.ifSent(other, letter)); break;
+    }
+  }
+
+  private void callText(String where) {
+    switch (random.nextInt(6)) {
+      case 0: case 1: case 2: callPut(where); break;
+      case 3: due(where, "fault", 0, 0, desk.fault(), plain.fault()); break;
+      case 4: due(where, "carryOut", 0, 0, desk.carryOut(), plain.carryOut()); break;
+      default: callWipe(where); break;
+    }
+  }
+
+  private void callWipe(String where) {
+    if (random.nextInt(3) == 0) {
+      due(where, "wipe", 0, 0, desk.wipe(), plain.wipe());
+    }
+  }
+
+  private void callState(String where) {
+    int slot = upTo(1);
+    switch (random.nextInt(6)) {
+      case 0: due(where, "save", slot, 0, desk.save(slot), plain.save(slot)); break;
+      case 1: due(where, "restore", slot, 0, desk.restore(slot), plain.restore(slot)); break;
+      default: due(where, "undo", 0, 0, desk.undo(), plain.undo()); break;
     }
   }
 
@@ -92,13 +162,6 @@ public final class ModelTest {
     int heat = upTo(random.nextBoolean() ? 99 : 40);
     int answers = letterOrNone();
     due(where, "write " + mood, heat, answers, desk.write(mood, heat, answers), plain.write(mood, heat, answers));
-  }
-
-  private void callHours(String where) {
-    int mood = upTo(5);
-    int unlocks = random.nextInt(4) == 0 ? -6 : upTo(23);
-    int locks = upTo(23);
-    due(where, "hours " + mood, unlocks, locks, desk.hours(mood, unlocks, locks), plain.hours(mood, unlocks, locks));
   }
 
   private void callPut(String where) {
