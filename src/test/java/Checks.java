@@ -56,4 +56,35 @@ final class Checks {
       hours -= now;
     }
   }
+
+  /** A desk on which letters go on the day on which they are written. */
+  static MoodDrawers quickDesk() {
+    MoodDrawers desk = new MoodDrawers();
+    for (int mood = 0; mood < 6; mood++) {
+      desk.rest(mood, 0);
+    }
+    desk.set(MoodDrawers.COOL, 99);
+    return desk;
+  }
+
+  /** What lies just outside of a range, and as far outside as an int can. */
+  static int[] outside(int lowest, int highest) {
+    return new int[] {lowest - 1, highest + 1, Integer.MIN_VALUE, Integer.MAX_VALUE};
+  }
+
+  /** So many letters without heat, which answer none, for one drawer. */
+  static void write(MoodDrawers desk, int mood, int letters) {
+    for (int letter = 0; letter < letters; letter++) {
+      desk.write(mood, 0, MoodDrawers.NONE);
+    }
+  }
+
+  /** A desk with 30 letters, five in each drawer. */
+  static MoodDrawers fullDesk() {
+    MoodDrawers desk = new MoodDrawers();
+    for (int mood = 0; mood < 6; mood++) {
+      write(desk, mood, 5);
+    }
+    return desk;
+  }
 }

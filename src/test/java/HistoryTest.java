@@ -17,25 +17,6 @@ public final class HistoryTest {
     Checks.end("HistoryTest");
   }
 
-  /** All that can be asked of a desk but the pad and the history. */
-  private static String told(MoodDrawers desk) {
-    StringBuilder told = new StringBuilder();
-    for (int what = 0; what < 10; what++) {
-      told.append(desk.count(what)).append(' ');
-    }
-    for (int mood = 0; mood < 6; mood++) {
-      for (int what = 0; what < 8; what++) {
-        told.append(desk.ofDrawer(mood, what)).append(' ');
-      }
-    }
-    for (int letter = 0; letter < 30; letter++) {
-      for (int what = 0; what < 10; what++) {
-        told.append(desk.ofLetter(letter, what)).append(' ');
-      }
-    }
-    return told.toString();
-  }
-
   private static void dueSame(String name, String got, String want) {
     Checks.due(name + ": " + got + " as " + want, got.equals(want) ? 1 : 0, 1);
   }
@@ -62,10 +43,10 @@ public final class HistoryTest {
   private static void undoEachChange() {
     for (int change = 0; change < 10; change++) {
       MoodDrawers desk = busyDesk();
-      String before = told(desk);
+      String before = Told.state(desk);
       Checks.due("change " + change + " is no error", change(desk, change) >= 0 ? 1 : 0, 1);
       Checks.due("undo of " + change, desk.undo(), 5);
-      dueSame("undone " + change, told(desk), before);
+      dueSame("undone " + change, Told.state(desk), before);
       Checks.due("undo of what was before", desk.undo(), 4);
     }
   }
@@ -180,11 +161,11 @@ public final class HistoryTest {
   private static void restore() {
     MoodDrawers desk = busyDesk();
     desk.save(1);
-    String saved = told(desk);
+    String saved = Told.state(desk);
     for (int change = 0; change < 10; change++) {
       change(desk, change);
       Checks.due("restore behind " + change, desk.restore(1), 4);
-      dueSame("restored behind " + change, told(desk), saved);
+      dueSame("restored behind " + change, Told.state(desk), saved);
     }
     MoodDrawers late = new MoodDrawers();
     late.save(0);
@@ -209,7 +190,7 @@ public final class HistoryTest {
     desk.write(2, 77, 1);
     desk.burn(3);
     desk.save(0);
-    String saved = told(desk);
+    String saved = Told.state(desk);
     desk.restore(1);
     Checks.due("nothing is left", desk.count(2), 0);
     desk.write(3, 5, NONE);
@@ -217,11 +198,11 @@ public final class HistoryTest {
     desk.write(5, 7, NONE);
     Checks.passUntil(desk, 7, 7);
     desk.write(5, 8, 1);
-    String other = told(desk);
+    String other = Told.state(desk);
     Checks.due("restore the first letters", desk.restore(0), 4);
-    dueSame("the first letters", told(desk), saved);
+    dueSame("the first letters", Told.state(desk), saved);
     desk.undo();
-    dueSame("undone to the others", told(desk), other);
+    dueSame("undone to the others", Told.state(desk), other);
   }
 
   private static void restoreIsAChange() {

@@ -22,18 +22,8 @@ public final class QueriesTest {
     }
   }
 
-  /** A desk on which letters go on the day on which they are written. */
-  private static MoodDrawers quickDesk() {
-    MoodDrawers desk = new MoodDrawers();
-    for (int mood = 0; mood < 6; mood++) {
-      desk.rest(mood, 0);
-    }
-    desk.set(MoodDrawers.COOL, 99);
-    return desk;
-  }
-
   private static void ofLetter() {
-    MoodDrawers desk = quickDesk();
+    MoodDrawers desk = Checks.quickDesk();
     Checks.due("no letter yet", desk.ofLetter(0, 0), NO_SUCH);
     desk.write(4, 21, NONE);
     Checks.due("sent", desk.pass(24), 1);
@@ -84,7 +74,7 @@ public final class QueriesTest {
   }
 
   private static void regretsOfAChain() {
-    MoodDrawers desk = quickDesk();
+    MoodDrawers desk = Checks.quickDesk();
     int answers = NONE;
     for (int letter = 0; letter < 30; letter++) {
       answers = desk.write(letter % 6, 99, answers);
@@ -97,7 +87,7 @@ public final class QueriesTest {
     Checks.due("the last one's depth", desk.ofLetter(29, 9), 29);
     Checks.due("the first one's depth", desk.ofLetter(0, 9), 0);
     Checks.due("the most regretted", desk.mostRegretted(), 0);
-    MoodDrawers other = quickDesk();
+    MoodDrawers other = Checks.quickDesk();
     other.write(0, 10, NONE);
     other.pass(24);
     other.write(1, 7, 0);
@@ -214,7 +204,7 @@ public final class QueriesTest {
   }
 
   private static void meanHeat() {
-    MoodDrawers desk = quickDesk();
+    MoodDrawers desk = Checks.quickDesk();
     Checks.due("without letters", desk.meanHeat(), 0);
     int together = 0;
     for (int letter = 0; letter < 30; letter++) {
@@ -227,7 +217,7 @@ public final class QueriesTest {
       Checks.due("mean of " + together + " by " + (letter + 1), desk.meanHeat(),
           Double.doubleToLongBits((double) together / (double) (letter + 1)));
     }
-    MoodDrawers near = quickDesk();
+    MoodDrawers near = Checks.quickDesk();
     for (int letter = 0; letter < 30; letter++) {
       near.write(letter % 6, letter == 0 ? 3 : 2, NONE);
       near.pass(24);
@@ -239,14 +229,14 @@ public final class QueriesTest {
     cooled.burn(1);
     cooled.pass(240);
     Checks.due("heat as it was sent, none of burnt ones", cooled.meanHeat(), Double.doubleToLongBits(30.0));
-    MoodDrawers hottest = quickDesk();
+    MoodDrawers hottest = Checks.quickDesk();
     hottest.write(0, 99, NONE);
     hottest.pass(24);
     Checks.due("the greatest mean", hottest.meanHeat(), Double.doubleToLongBits(99.0));
   }
 
   private static void share() {
-    MoodDrawers desk = quickDesk();
+    MoodDrawers desk = Checks.quickDesk();
     Checks.due("without letters", desk.share(), NONE);
     for (int letter = 0; letter < 30; letter++) {
       desk.write(letter % 6, 1, NONE);
@@ -255,13 +245,13 @@ public final class QueriesTest {
       desk.pass(24);
       Checks.due("share of all", desk.share(), Float.floatToIntBits(1.0f));
     }
-    MoodDrawers burnt = quickDesk();
+    MoodDrawers burnt = Checks.quickDesk();
     for (int letter = 0; letter < 30; letter++) {
       burnt.write(letter % 6, 1, NONE);
       burnt.burn(letter);
       Checks.due("none sent", burnt.share(), 0);
     }
-    MoodDrawers few = quickDesk();
+    MoodDrawers few = Checks.quickDesk();
     few.write(0, 1, NONE);
     few.pass(24);
     for (int letter = 1; letter < 30; letter++) {
