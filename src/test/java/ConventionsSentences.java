@@ -100,7 +100,7 @@ final class ConventionsSentences {
     }
   }
 
-  /** Letters of each kind, a full and a locked drawer, hours, a slot, six states, and 79 characters of good orders. */
+  /** Letters of each kind, a full and a locked drawer, hours, a slot, six states, and 79 characters of orders. */
   private static MoodDrawers busyDesk() {
     MoodDrawers desk = new MoodDrawers();
     desk.rest(1, 0);

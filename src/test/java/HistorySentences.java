@@ -13,6 +13,7 @@ final class HistorySentences {
 
   static void test() {
     undo();
+    undoLeavesPadAndSlots();
     undoOfEachChange();
     historyOfSix();
     historyOfChanges();
@@ -66,22 +67,29 @@ final class HistorySentences {
     desk.write(0, 9, 0);
     String written = Told.state(desk);
     desk.pass(100);
-    Checks.putText(desk, "k1");
-    said.due("save all three letters and one more", desk.save(1), 4);
-    String passed = Told.state(desk);
     said.due("undo() of pass", desk.undo(), 5);
     said.dueSame("ahead of pass", Told.state(desk), written);
-    said.due("the pad stays", desk.count(10), 2);
     said.due("undo() of write", desk.undo(), 4);
     said.dueSame("ahead of write", Told.state(desk), before);
-    said.due("the pad still stays", desk.count(10), 2);
+  }
+
+  private static void undoLeavesPadAndSlots() {
+    Sentence said = new Sentence("Promise 23", UNDOES);
+    MoodDrawers desk = busyDesk();
+    desk.write(0, 9, 0);
+    Checks.putText(desk, "k1");
+    said.due("save four letters", desk.save(1), 4);
+    String saved = Told.state(desk);
+    said.due("undo() of write", desk.undo(), 5);
+    said.due("three letters", desk.count(2), 3);
+    said.due("the pad stays", desk.count(10), 2);
     said.due("the slot stays", desk.restore(1), 4);
-    said.dueSame("what was saved", Told.state(desk), passed);
+    said.dueSame("what was saved", Told.state(desk), saved);
     said.due("the pad's text stays", desk.carryOut(), 1);
     said.due("undo() of carryOut", desk.undo(), 5);
     said.due("the pad stays empty", desk.count(10), 0);
-    said.due("the history goes on", desk.undo(), 4);
-    said.dueSame("ahead of restore", Told.state(desk), before);
+    said.due("the history goes on: undo() of restore", desk.undo(), 4);
+    said.due("three letters again", desk.count(2), 3);
   }
 
   private static void undoOfEachChange() {
@@ -316,6 +324,32 @@ final class HistorySentences {
     desk.restore(1);
     restores.due("the day of the first hours", desk.count(0), 0);
     restores.due("hours pass again, and its letter goes", desk.pass(240), 1);
+    restoreOverOthers(restores);
+  }
+
+  /** Both states have letters of the same numbers, and nothing else is alike. */
+  private static void restoreOverOthers(Sentence restores) {
+    MoodDrawers desk = new MoodDrawers();
+    desk.save(0);
+    desk.pass(49);
+    desk.write(5, 55, NONE);
+    desk.write(4, 44, NONE);
+    desk.write(3, 33, NONE);
+    desk.burn(0);
+    desk.pass(90);
+    desk.save(1);
+    String others = Told.state(desk);
+    desk.restore(0);
+    desk.write(0, 30, NONE);
+    desk.pass(66);
+    desk.write(1, 21, 0);
+    desk.pass(48);
+    desk.write(2, 12, 1);
+    String own = Told.state(desk);
+    restores.due("restore the others", desk.restore(1), 3);
+    restores.dueSame("the others", Told.state(desk), others);
+    desk.undo();
+    restores.dueSame("undone again", Told.state(desk), own);
   }
 
   private static void restoreAnswers() {

@@ -159,10 +159,10 @@ public final class HistoryTest {
   }
 
   private static void restore() {
-    MoodDrawers desk = busyDesk();
-    desk.save(1);
-    String saved = Told.state(desk);
+    String saved = Told.state(busyDesk());
     for (int change = 0; change < 10; change++) {
+      MoodDrawers desk = busyDesk();
+      desk.save(1);
       change(desk, change);
       Checks.due("restore behind " + change, desk.restore(1), 4);
       dueSame("restored behind " + change, Told.state(desk), saved);

@@ -1,9 +1,11 @@
 import java.util.Random;
 
-/** Runs of 512 calls, chosen by seeds, on MoodDrawers and on PlainDesk: both have to answer alike. */
+/** Runs of up to 512 calls, chosen by seeds, on MoodDrawers and on PlainDesk: both have to answer alike. */
 public final class ModelTest {
   private static final int RUNS = 600;
   private static final int CALLS = 512;
+  /** No step makes more calls than this: four orders, put in pieces of eight characters, and fault(). */
+  private static final int CALLS_OF_A_STEP = 8;
   private static final int[] HIGHEST_SETTING = {23, 99, 20};
   private static final int[] EXTREMES = {
       Integer.MIN_VALUE, Integer.MAX_VALUE, -1, -2, -5, -6, -7, 30, 31, 100, 240, 241};
@@ -14,6 +16,7 @@ public final class ModelTest {
   /** How this run is: long ones pass more hours, heedless ones have more wrong arguments. */
   private final int wrongIn;
   private final int passesMost;
+  private int calls;
 
   private ModelTest(long seed) {
     random = new Random(seed);
@@ -24,8 +27,8 @@ public final class ModelTest {
   public static void main(String[] args) {
     for (int run = 0; run < RUNS; run++) {
       ModelTest test = new ModelTest(run);
-      for (int call = 0; call < CALLS; call++) {
-        test.call("run " + run + ", call " + call + ": ");
+      while (test.calls <= CALLS - CALLS_OF_A_STEP) {
+        test.step("run " + run + ", call " + test.calls + ": ");
       }
     }
     Checks.end("ModelTest");
@@ -39,14 +42,14 @@ public final class ModelTest {
   }
 
   private int letter() {
-    return upTo(Math.max(0, desk.count(2) - 1));
+    return upTo(Math.max(0, plain.count(2) - 1));
   }
 
   private int letterOrNone() {
     if (random.nextInt(3) == 0) {
       return -6;
     }
-    long sent = desk.letters(1);
+    long sent = plain.letters(1);
     for (int tries = 0; tries < 20; tries++) {
       int letter = random.nextInt(30);
       if ((sent >>> letter & 1) == 1) {
@@ -56,7 +59,7 @@ public final class ModelTest {
     return random.nextInt(4) == 0 ? letter() : -6;
   }
 
-  private void call(String where) {
+  private void step(String where) {
     switch (random.nextInt(10)) {
       case 0: case 1: callWrite(where); break;
       case 2: case 3: callChange(where); break;
@@ -170,7 +173,7 @@ public final class ModelTest {
       due(where, "put " + characters, 0, 0, desk.put(characters), plain.put(characters));
       return;
     }
-    int separated = desk.count(10) > 0 ? 1 : 0;
+    int separated = plain.count(10) > 0 ? 1 : 0;
     StringBuilder text = new StringBuilder();
     for (int order = random.nextInt(4); order >= 0; order--) {
       text.append(separated++ > 0 ? ";" : "").append(order());
@@ -198,7 +201,8 @@ public final class ModelTest {
     }
   }
 
-  private static void due(String where, String call, int a, int b, long got, long want) {
+  private void due(String where, String call, int a, int b, long got, long want) {
+    calls++;
     Checks.due(got == want ? "" : where + call + " " + a + " " + b, got, want);
   }
 }

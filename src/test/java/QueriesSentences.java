@@ -137,6 +137,11 @@ final class QueriesSentences {
     }
     what.due("a full drawer", hot.ofDrawer(0, 0), 8);
     what.due("the greatest heat", hot.ofDrawer(0, 5), 8 * 99);
+    MoodDrawers full = Checks.fullDesk();
+    what.due("heat of letters without heat, of 30", full.ofDrawer(5, 5), 0);
+    what.due("letters in it, of 30", full.ofDrawer(5, 0), 5);
+    full.pass(72);
+    what.due("sent, of 30", full.ofDrawer(5, 6), 5);
   }
 
   private static void ofDrawerErrors() {

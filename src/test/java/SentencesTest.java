@@ -17,7 +17,7 @@ public final class SentencesTest {
     if (Document.isThere()) {
       eachSentenceIsTested(Document.sentences());
     } else {
-      System.out.println("DOC.md is not in ../shared: its sentences could not be compared with those that are tested");
+      System.out.println("there is no DOC.md in ../shared: the sentences were tested, but not compared with it");
     }
     Checks.end("SentencesTest");
   }

@@ -379,7 +379,7 @@ final class TermsSentences {
     }
     said.due("up to the hour of the post", desk.pass(17), 0);
     said.due("the hour of the post", desk.pass(1), 2);
-    said.due("cool ones without rest, also from a drawer that the hour has unlocked", desk.letters(1), 1 << 3 | 1 << 6);
+    said.due("cool ones that need no rest, in open drawers", desk.letters(1), 1 << 3 | 1 << 6);
     said.due("the other hours of a day", desk.pass(23), 0);
     said.due("the post of the day 1", desk.pass(1), 2);
     said.due("one whose rest is over, one that is cool", desk.letters(1), 1 << 1 | 1 << 3 | 1 << 4 | 1 << 6);

@@ -72,6 +72,13 @@ final class WhatIfSentences {
       said.due("locked now, " + told, desk.goesIn(0), hours[3]);
       desk.turn(0);
     }
+    desk.pass(12);
+    desk.hours(0, 3, 9);
+    said.due("open now, though it was locked at 9", desk.goesIn(0), 6);
+    desk.turn(0);
+    said.due("locked now, and at each post to come", desk.goesIn(0), NONE);
+    desk.hours(0, 9, 3);
+    said.due("locked now, though it was unlocked at 9", desk.goesIn(0), 6 + 24);
   }
 
   private static void goesInNow() {
