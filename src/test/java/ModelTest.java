@@ -27,11 +27,20 @@ public final class ModelTest {
   public static void main(String[] args) {
     for (int run = 0; run < RUNS; run++) {
       ModelTest test = new ModelTest(run);
+      if (run % 6 == 0) {
+        test.passNearTheLastDay("run " + run + ": ");
+      }
       while (test.calls <= CALLS - CALLS_OF_A_STEP) {
         test.step("run " + run + ", call " + test.calls + ": ");
       }
     }
     Checks.end("ModelTest");
+  }
+
+  private void passNearTheLastDay(String where) {
+    for (int pass = 0; pass < 99; pass++) {
+      due(where, "pass", 240, 0, desk.pass(240), plain.pass(240));
+    }
   }
 
   private int upTo(int most) {
